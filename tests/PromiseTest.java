@@ -115,6 +115,8 @@ public final class PromiseTest {
     due("push of a shut one", x.of(4, 9), 57);
     x.night(1, 0);
     due("turning without wind", x.of(1, 8), 7);
+    x.shut(4, false);
+    due("turning on its side without wind", x.of(4, 8), 7);
     x.gap(5, 0, -1, 99000);
     due("push of a chimney", x.of(5, 9), -70);
     x.gap(2, 0, -1, 99000);
@@ -233,6 +235,8 @@ public final class PromiseTest {
     fault("room room", 5);
     fault("rooms", 0);
     fault("roo", 0);
+    fault("roomz", 0);
+    fault("aroom", 0);
     fault("Room", 0);
     fault("room;", 4);
     fault("room\n", 4);
@@ -464,6 +468,10 @@ public final class PromiseTest {
     due("known", x.widths(2, x.lean(2), 0), 100);
     due("hidden by halves", x.widths(3, 0, 2), 5);
     due("the width stays", x.of(0, 3), 50);
+    SmokeLeans y = house("room, gap 0 out 50, gap 0 out 99 high 9");
+    due("lean 9", y.widths(0, 9, 2), 99);
+    due("lean -9", y.widths(1, -9, 2), 99);
+    due("lean -9 of the other", y.widths(0, -9, 0), 0);
   }
 
   private static void most() {
@@ -553,6 +561,23 @@ public final class PromiseTest {
     due("it pays", y.order(0), 0);
     due("nothing lost, nothing pays", y.order(1), NONE);
     due("saved(2)", y.saved(2), 0);
+    orderOfAll();
+  }
+
+  /** No two push alike, and the fan draws through the last: each of 20 steps pays. */
+  private static void orderOfAll() {
+    SmokeLeans x = house("room, cold 40, wind 40");
+    x.night(3, -1);
+    for (int i = 0; i < 20; i++) x.gap(0, 0, -1, 100000 + 1000 * (i / 2) + 100 * (i % 2));
+    int set = 0;
+    for (int i = 0; i < 20; i++) {
+      int gap = x.order(i);
+      if (gap >= 0 && gap < 20) set |= 1 << gap;
+      due("step pays", x.saved(i) > x.saved(i + 1) ? 1 : 0, 1);
+    }
+    due("all of them", set, (1 << 20) - 1);
+    due("behind 19", x.saved(19), 40);
+    due("behind all", x.saved(20), 0);
   }
 
   private static void line() {
@@ -564,6 +589,11 @@ public final class PromiseTest {
     due("on it", x.air(2), 1);
     due("by no wind of its own", x.line(), 72);
     due("wind stays", x.night(1, 99), 72);
+    x.night(3, 34);
+    due("the greatest wind", x.line(), 99);
+    x.night(3, 35);
+    due("past the greatest", x.line(), NONE);
+    x.night(3, 0);
     x.night(2, 2);
     due("from across", x.line(), NONE);
     x.width(0, 0);

@@ -154,7 +154,7 @@ public final class SmokeLeans {
             return find(FULL);
         }
         for (int i = n - 1; i >= 0; i--) {
-            teller.tape.put(bytes >>> (8 * i) & 255);
+            teller.tape.put((bytes >>> (8 * i)) & 255);
         }
         return teller.tape.length;
     }
@@ -552,7 +552,7 @@ public final class SmokeLeans {
     }
 
     private static boolean isIn(int set, int gap) {
-        return (set >>> gap & 1) == 1;
+        return ((set >>> gap) & 1) == 1;
     }
 
     private static int leanOf(int flow) {
@@ -753,14 +753,10 @@ public final class SmokeLeans {
 
         private void goRounds(int roomCount) {
             roundCount = 0;
-            restless = true;
-            while (restless && roundCount < MAX_ROUNDS) {
-                if (goRound(roomCount)) {
-                    roundCount++;
-                } else {
-                    restless = false;
-                }
+            while (roundCount < MAX_ROUNDS && goRound(roomCount)) {
+                roundCount++;
             }
+            restless = roundCount == MAX_ROUNDS;
         }
 
         /** Whether a PRESSURE changed. */
@@ -836,7 +832,7 @@ public final class SmokeLeans {
             int sub = 0;
             for (int k = 0; k < subsets; k++) {
                 tryStop(sub, shutJust(set, sub), coin, least);
-                sub = sub - set & set;
+                sub = (sub - set) & set;
             }
             return stopSet >= 0;
         }
