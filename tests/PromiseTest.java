@@ -1,10 +1,5 @@
 /** Each promise by itself, with answers worked out by hand from the document. */
-public final class PromiseTest {
-  private static final long BEYOND = -1000000001L, FULL = -1000000002L, KIND = -1000000003L, NONE = -1000000004L;
-  private static final long MISSING = -1000000006L, SIZE = -1000000007L;
-  private static final int LEAST_INT = Integer.MIN_VALUE, MOST_INT = Integer.MAX_VALUE;
-  private static int wrong = 0;
-
+public final class PromiseTest extends Checks {
   public static void main(String[] args) {
     newObject(); rooms(); gaps(); measures(); widthAndShut(); asKinds(); night();
     tape(); textsThatStand(); textsWithFaults(); textLimits();
@@ -12,30 +7,8 @@ public final class PromiseTest {
     sticks(); sticksOnSheets(); widthsByLean(); most();
     stopLeast(); stopFewest(); stopAsk(); order(); line(); alone(); turns(); worst();
     sheets(); copies(); lays(); reads(); images(); counts(); status();
-    System.out.println(wrong == 0 ? "all promises are kept" : wrong + " answers are not as due");
-    if (wrong != 0) System.exit(1);
+    end("all promises are kept");
   }
-
-  private static void due(String call, long got, long want) {
-    if (got == want) return;
-    wrong++;
-    System.out.println(call + " answered " + got + ", due is " + want);
-  }
-
-  private static void feed(SmokeLeans x, String text) {
-    for (int i = 0; i < text.length(); i++) x.feed(text.charAt(i), 1);
-  }
-
-  private static int told(SmokeLeans x, String text) { feed(x, text); return x.house(); }
-
-  private static SmokeLeans house(String text) {
-    SmokeLeans x = new SmokeLeans();
-    int items = told(x, text);
-    if (items < 0) due("house of " + text, items, text.split(",").length);
-    return x;
-  }
-
-  private static void text(SmokeLeans x, String text, long want) { due("house() of '" + text + "'", told(x, text), want); }
 
   private static void fault(String text, int place) {
     SmokeLeans x = house("room, room, gap 0 out 10");
