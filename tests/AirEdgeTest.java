@@ -3,9 +3,9 @@ public final class AirEdgeTest extends Checks {
   public static void main(String[] args) {
     pressureWithoutBreadth(); pressureByFan(); pressureCut(); pressureOfRooms(); roundsAtOnce(); roundsFromNoneToSixty();
     flowCut(); flowSigns(); restOfRooms(); leanLimits(); freshAndLost(); smokeLimits(); smokeByKinds();
-    drawsGoRound(); slipLimits(); hiddenSeen(); sticksOnShortSheets(); sticksOfBits();
+    drawsGoRound(); slipLimits(); seenAtOnce(); hiddenSeen(); sticksOnShortSheets(); sticksOfBits();
     widthsOfShut(); widthsAtTheEnds(); mostOfSeveral();
-    stopOfNothing(); stopForCoin(); stopWithFresh(); stopSmokes(); stopOfSeveral(); stopOfTen(); stopOfLastGap();
+    stopOfNothing(); stopForCoin(); stopWithFresh(); stopSmokes(); stopOfSeveral(); stopOfTen(); stopThatCosts(); stopBesideShut(); stopOfLastGap();
     orderOfNone(); orderOfSeveral(); orderLeavesOut(); orderSmokes(); savedLimits(); lineLimits(); aloneAtTheEnds();
     turnsBothWays(); turnsOfLastGap(); worstOfSides();
     end("all edges of air stand");
@@ -148,6 +148,10 @@ public final class AirEdgeTest extends Checks {
     y.shut(0, true);
     y.shut(1, true);
     due("rest, all shut", y.rest(1), 0);
+    SmokeLeans z = house("room");
+    for (int g = 0; g < 20; g++) z.gap(0, 0, -1, 10000 + 9000 * (g % 2));
+    due("rest by twenty, 4 in and 4 out", z.rest(0), 0);
+    due("a flow of these", z.flow(0), 4);
   }
 
   private static void leanLimits() {
@@ -261,6 +265,18 @@ public final class AirEdgeTest extends Checks {
     slip(x, 1103527590, 32, 3);
     slip(x, 1103527590, 33, 0);
     due("nothing slips but the stick", x.lean(0), 3);
+  }
+
+  private static void seenAtOnce() {
+    SmokeLeans x = house("room, gap 0 out 40, gap 0 out 40 high 9");
+    due("a stick ahead of any other look", x.stick(0), 9);
+    x.width(1, 0);
+    due("a stick behind a change", x.stick(0), 0);
+    x.width(1, 40);
+    x.sheet(0, 8, 2);
+    due("sticks behind a change", x.sticks(0), 2);
+    due("the first", x.write(0, 0, 0), 9);
+    due("the second", x.write(0, 1, 0), -9);
   }
 
   private static void hiddenSeen() {
@@ -448,6 +464,26 @@ public final class AirEdgeTest extends Checks {
     due("another ten", x.stop(2046, 999, 0, 2), 891);
   }
 
+  /** Without the second one FRESH is 6, not 5: what is cut from it counts for more than what goes through it. */
+  private static void stopThatCosts() {
+    SmokeLeans x = house("room, gap 0 out 1, gap 0 out 1 high 5, gap 0 out 2 high 9");
+    due("fresh", x.air(0), 5);
+    due("more would be lost", x.stop(2, 0, 0, 0), 0);
+    due("lost with none", x.stop(2, 0, 0, 1), 50);
+    due("but just so it is fresh enough", x.stop(2, 0, 6, 0), 2);
+    due("lost then", x.stop(2, 0, 6, 1), 60);
+  }
+
+  private static void stopBesideShut() {
+    SmokeLeans x = house("room, gap 0 out 10, gap 0 out 10 cost 9, gap 0 out 10, needed 0 out 10 high 9");
+    x.shut(0, true);
+    due("the first is shut", x.stop(1, 0, 0, 0), BEYOND);
+    due("beside it", x.stop(4, 0, 0, 0), 4);
+    due("it stays shut for it", x.stop(4, 0, 0, 1), 450);
+    due("of two alike", x.stop(6, 9, 0, 0), 2);
+    due("none, as it is", x.stop(4, 0, 60, 1), 600);
+  }
+
   private static void stopOfLastGap() {
     SmokeLeans x = house("room, gap 0 out 10, needed 0 out 10 high 9");
     for (int g = 2; g < 19; g++) x.gap(0, 0, -1, 0);
@@ -568,6 +604,10 @@ public final class AirEdgeTest extends Checks {
     due("so it turns not", y.turns(1), 0);
     y.shut(0, true);
     due("a shut one turns none", y.turns(0), 0);
+    SmokeLeans z = house("room, gap 0 out 10 high 5, gap 0 out 10, gap 0 out 8 high 9, gap 0 out 12 high 9");
+    due("the first leans by 1", z.lean(0), 1);
+    due("and would by -1", z.turns(3), 1);
+    due("its flow then", z.flow(0) + z.alone(0, 3), -6);
   }
 
   private static void turnsOfLastGap() {

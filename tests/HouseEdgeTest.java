@@ -6,7 +6,7 @@ public final class HouseEdgeTest extends Checks {
     widths(); shuts(); asKinds(); nightLimits();
     feeding(); tapeLimits(); wiping();
     emptyTexts(); numbersInTexts(); leadingZeros(); numbersTooGreat(); roomsByThen(); seventhRoom(); twentyFirstGap();
-    endsTooEarly(); wrongTokens(); orderOfMeasures(); blanks(); longTokens(); fullTapes(); textComesToWhatIsThere();
+    endsTooEarly(); wrongTokens(); wordsLetterByLetter(); orderOfMeasures(); blanks(); longTokens(); fullTapes(); textComesToWhatIsThere();
     end("all edges of the house stand");
   }
 
@@ -403,11 +403,34 @@ public final class HouseEdgeTest extends Checks {
 
   private static void wrongTokens() {
     String[] all = {"roomy", "roo", "gaps 0 out 5", "ga", "cool 5", "fan 5", "from 1", "slips 3", "high 3", "out", "0", "room room",
-        "room 1", "room;room", "gap , 0 out 5", "gap room out 5", "gap 0 in 5", "gap 0 , 5", "gap 0 -1 5", "gap 0 out high 1",
+        "room 1", "room;room", "gap , 0 out 5", "gap out 5", "gap out 0 5", "gap room out 5", "gap 0 in 5", "gap 0 , 5", "gap 0 -1 5", "gap 0 out high 1",
         "gap 0 out 5 5", "gap 0 out 5 width 1", "gap 0 out 5 high high", "gap 0 out 5 high , 1", "cold room", "cold -1", "wind wind 1",
         "room,,room", "ROOM", "Room", "gap 0 Out 5", "\troom", "room\nroom", "room\0", "room\u00ff", "`", "{", "/", ":", "room.room", "gap 0 out 5.5"};
-    int[] places = {0, 0, 0, 0, 0, 0, 0, 0, 0, 0, 0, 5, 5, 4, 4, 4, 6, 6, 6, 10, 12, 12, 17, 17, 5, 5, 5, 5, 0, 0, 6, 0, 4, 4, 4, 0, 0, 0, 0, 4, 11};
+    int[] places = {0, 0, 0, 0, 0, 0, 0, 0, 0, 0, 0, 5, 5, 4, 4, 4, 4, 4, 6, 6, 6, 10, 12, 12, 17, 17, 5, 5, 5, 5, 0, 0, 6, 0, 4, 4, 4, 0, 0, 0, 0, 4, 11};
     for (int i = 0; i < all.length; i++) text(three(), all[i], -1 - places[i]);
+  }
+
+  /** Each word with a letter less, a letter more, and each of its letters another one. */
+  private static void wordsLetterByLetter() {
+    String[] texts = {"room", "gap 0 out 5", "hidden 0 out 5", "needed 0 out 5", "known 0 out 5", "turning 0 out 5", "chimney 0 out 5",
+        "cold 5", "wind 5", "thumb 5", "gap 0 out 5", "gap 0 out 5 high 1", "gap 0 out 5 side 1", "gap 0 out 5 cost 1"};
+    String[] words = {"room", "gap", "hidden", "needed", "known", "turning", "chimney", "cold", "wind", "thumb", "out", "high", "side", "cost"};
+    for (int i = 0; i < words.length; i++) {
+      String word = words[i];
+      int place = texts[i].indexOf(word);
+      text(three(), texts[i], 1);
+      text(three(), texts[i].replace(word, word + "a"), -1 - place);
+      text(three(), texts[i].replace(word, word + "z"), -1 - place);
+      text(three(), texts[i].replace(word, "z" + word), -1 - place);
+      text(three(), texts[i].replace(word, word.substring(1)), -1 - place);
+      text(three(), texts[i].replace(word, word.substring(0, word.length() - 1)), -1 - place);
+      for (int k = 0; k < word.length(); k++) {
+        String other = word.substring(0, k) + "q" + word.substring(k + 1);
+        text(three(), texts[i].replace(word, other), -1 - place);
+        String great = word.substring(0, k) + word.substring(k, k + 1).toUpperCase() + word.substring(k + 1);
+        text(three(), texts[i].replace(word, great), -1 - place);
+      }
+    }
   }
 
   private static void orderOfMeasures() {

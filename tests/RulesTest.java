@@ -5,7 +5,9 @@ import java.lang.reflect.Modifier;
 import java.nio.charset.StandardCharsets;
 import java.nio.file.Files;
 import java.nio.file.Paths;
+import java.util.Map;
 import java.util.Set;
+import java.util.TreeMap;
 import java.util.TreeSet;
 import java.util.regex.Matcher;
 import java.util.regex.Pattern;
@@ -34,6 +36,7 @@ public final class RulesTest {
     String source = new String(Files.readAllBytes(Paths.get(System.getProperty("source"))), StandardCharsets.ISO_8859_1);
     checkWords(withoutComments(source));
     checkMethods(source);
+    checkDepth(withoutComments(source));
     System.out.println(wrong == 0 ? "the face and the rules stand" : wrong + " faults of face or rules");
     if (wrong != 0) System.exit(1);
   }
@@ -69,7 +72,19 @@ public final class RulesTest {
     for (Class<?> c : inside) {
       if (!Modifier.isStatic(c.getModifiers()) || Modifier.isPublic(c.getModifiers())) fault("class " + c.getName());
       for (Field f : c.getDeclaredFields()) checkStatic(f);
+      checkSize(c);
+      for (Method m : c.getDeclaredMethods()) {
+        if (publicNames.contains(m.getName())) fault(m.getName() + " of " + c.getName() + " bears a name of the face");
+      }
     }
+    checkSize(face);
+  }
+
+  private static void checkSize(Class<?> c) {
+    int fields = 0;
+    for (Field f : c.getDeclaredFields()) if (!Modifier.isStatic(f.getModifiers())) fields++;
+    if (fields > 20) fault("class " + c.getName() + " has " + fields + " fields");
+    for (Method m : c.getDeclaredMethods()) if (m.getParameterCount() > 7) fault(m.getName() + " has too many parameters");
   }
 
   private static void checkStatic(Field f) {
@@ -106,5 +121,32 @@ public final class RulesTest {
       while (end < lines.length && !lines[end].equals(m.group(1) + "}")) end++;
       if (end - i > 60) fault("long method at line " + (i + 1));
     }
+  }
+
+  /** Calls go at most eight deep, counted from a public method; methods of one name are taken for one. */
+  private static void checkDepth(String source) {
+    Map<String, StringBuilder> bodies = new TreeMap<>();
+    String[] lines = source.split("\n");
+    Pattern head = Pattern.compile("^( {4}| {8})(?! )(?!.*\\bclass\\b)(?!.*=)[\\w\\[\\] ]*\\b(\\w+)\\(.*\\{$");
+    for (int i = 0; i < lines.length; i++) {
+      Matcher m = head.matcher(lines[i]);
+      if (!m.matches() || m.group(1).length() == 8 && lines[i].matches(" +(if|for|while|switch) .*")) continue;
+      StringBuilder body = bodies.computeIfAbsent(m.group(2), name -> new StringBuilder());
+      for (int k = i + 1; k < lines.length && !lines[k].equals(m.group(1) + "}"); k++) body.append(lines[k]).append('\n');
+    }
+    for (String name : bodies.keySet()) {
+      if (depth(name, bodies, 1) > 8) fault(name + " goes deeper than eight calls");
+    }
+    if (bodies.size() < 80) fault("only " + bodies.size() + " methods were found");
+  }
+
+  private static int depth(String name, Map<String, StringBuilder> bodies, int open) {
+    int deepest = 1;
+    if (open > 20) return deepest;
+    for (String other : bodies.keySet()) {
+      if (!Pattern.compile("\\b" + other + "\\(").matcher(bodies.get(name)).find()) continue;
+      deepest = Math.max(deepest, 1 + depth(other, bodies, open + 1));
+    }
+    return deepest;
   }
 }

@@ -1024,19 +1024,10 @@ public final class SmokeLeans {
             if (room < 0) {
                 return false;
             }
-            int other = OUT;
-            if (isWord("out")) {
-                nextToken();
-            } else {
-                other = takeOther(house.roomCount - 1, room);
-                if (other < 0) {
-                    return false;
-                }
+            int other = takeOther(house.roomCount - 1, room);
+            if (other < OUT) {
+                return false;
             }
-            return tellMeasures(house, house.addGap(kind, room, other));
-        }
-
-        private boolean tellMeasures(Plan house, int gap) {
             int width = takeNumber(MAX_WIDTH);
             int height = width < 0 ? -1 : takePerhaps("high", MAX_HEIGHT);
             int side = height < 0 ? -1 : takePerhaps("side", SIDES - 1);
@@ -1044,12 +1035,18 @@ public final class SmokeLeans {
             if (cost < 0) {
                 return false;
             }
-            house.measure(gap, width, height, side, cost);
+            house.measure(house.addGap(kind, room, other), width, height, side, cost);
             return true;
         }
 
+        /** Below OUT if it is neither that nor another ROOM. */
         private int takeOther(int most, int room) {
-            return token == NUMBER && value == room ? -1 : takeNumber(most);
+            if (isWord("out")) {
+                nextToken();
+                return OUT;
+            }
+            int other = token == NUMBER && value == room ? -1 : takeNumber(most);
+            return other < 0 ? OUT - 1 : other;
         }
 
         /** 0 without the word; -1 if its NUMBER may not be. */
@@ -1112,47 +1109,36 @@ public final class SmokeLeans {
             return true;
         }
 
-        private void nextToken() {
-            start = end;
-            while (start < tape.length && tape.at(start) == ' ') {
-                start++;
-            }
-            end = start;
-            if (start >= tape.length) {
-                token = END;
-            } else if (isLetter(tape.at(start))) {
-                passWord();
-            } else if (isDigit(tape.at(start))) {
-                passNumber();
-            } else {
-                token = tape.at(start) == ',' ? SIGN : NO_TOKEN;
-                end = start + 1;
-            }
-        }
-
-        private void passWord() {
-            token = WORD;
-            while (end < tape.length && isLetter(tape.at(end))) {
-                end++;
-            }
-        }
-
         /** Any value above 999 is held as 1000, which may stand nowhere: so many digits never go round. */
-        private void passNumber() {
-            token = NUMBER;
-            value = 0;
-            while (end < tape.length && isDigit(tape.at(end))) {
-                value = Math.min(value * 10 + (tape.at(end) - '0'), MAX_NUMBER + 1);
+        private void nextToken() {
+            while (end < tape.length && tape.at(end) == ' ') {
                 end++;
+            }
+            start = end;
+            token = sortOf(tape.at(start));
+            value = 0;
+            boolean goesOn = token != END;
+            while (goesOn && end < tape.length) {
+                if (token == NUMBER) {
+                    value = Math.min(value * 10 + (tape.at(end) - '0'), MAX_NUMBER + 1);
+                }
+                end++;
+                goesOn = (token == WORD || token == NUMBER) && sortOf(tape.at(end)) == token;
             }
         }
 
-        private static boolean isLetter(int b) {
-            return b >= 'a' && b <= 'z';
-        }
-
-        private static boolean isDigit(int b) {
-            return b >= '0' && b <= '9';
+        /** Of which sort a TOKEN is that begins with a byte. */
+        private static int sortOf(int b) {
+            if (b < 0) {
+                return END;
+            }
+            if (b >= 'a' && b <= 'z') {
+                return WORD;
+            }
+            if (b >= '0' && b <= '9') {
+                return NUMBER;
+            }
+            return b == ',' ? SIGN : NO_TOKEN;
         }
     }
 
