@@ -35,6 +35,7 @@ public final class RulesTest {
     checkFace();
     String source = new String(Files.readAllBytes(Paths.get(System.getProperty("source"))), StandardCharsets.ISO_8859_1);
     checkWords(withoutComments(source));
+    checkLibrary(withoutComments(source));
     checkMethods(source);
     checkDepth(withoutComments(source));
     System.out.println(wrong == 0 ? "the face and the rules stand" : wrong + " faults of face or rules");
@@ -108,6 +109,25 @@ public final class RulesTest {
     }
     for (int i = 0; i < source.length(); i++) {
       if (source.charAt(i) > 126) fault("sign " + (int) source.charAt(i));
+    }
+  }
+
+  /** Every name that is called is one of the file's own or of the library's part that rule 4 leaves. */
+  private static void checkLibrary(String source) {
+    Set<String> own = new TreeSet<>();
+    Matcher head = Pattern.compile("(?m)^(?: {4}| {8})(?! )(?:[\\w\\[\\]]+ )+(\\w+)\\([^;]*\\{$").matcher(source);
+    while (head.find()) own.add(head.group(1));
+    Set<String> words = Set.of("if", "for", "while", "switch", "Plan", "Air", "Trials", "Teller", "Tape", "Sheet");
+    Set<String> library = Set.of("System.arraycopy", "Math.abs", "Math.min", "Math.max", "Integer.bitCount", "word.length", "word.charAt");
+    Matcher call = Pattern.compile("(\\w+\\.)?\\b(\\w+)\\(").matcher(source);
+    while (call.find()) {
+      if (own.contains(call.group(2)) || words.contains(call.group(2))) continue;
+      String told = call.group().substring(0, call.group().length() - 1);
+      if (!library.contains(told)) fault("the source calls " + told);
+    }
+    Matcher flags = Pattern.compile("boolean\\[\\] (\\w+)").matcher(source);
+    while (flags.find()) {
+      if (Pattern.compile("arraycopy\\([^;]*\\b" + flags.group(1) + "\\b").matcher(source).find()) fault("arraycopy of booleans");
     }
   }
 

@@ -591,7 +591,9 @@ public final class SmokeLeans {
             System.arraycopy(from.heights, 0, heights, 0, MAX_GAPS);
             System.arraycopy(from.sides, 0, sides, 0, MAX_GAPS);
             System.arraycopy(from.costs, 0, costs, 0, MAX_GAPS);
-            System.arraycopy(from.isShut, 0, isShut, 0, MAX_GAPS);
+            for (int g = 0; g < MAX_GAPS; g++) {
+                isShut[g] = from.isShut[g];
+            }
         }
 
         boolean hasRoom(int room) {
